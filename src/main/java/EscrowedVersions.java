@@ -187,7 +187,8 @@ public final class EscrowedVersions {
         if (version.isGiven(i)) {
             return needed;
         }
-        // The last share that is needed writes the opening too: without room for both, neither is written.
+        // The last share that is needed writes the opening too: without room for both entries
+        // the whole call is refused.
         if (!journal.hasRoomFor(needed == 1 ? 2 : 1)) {
             return FULL;
         }

@@ -28,6 +28,21 @@ public final class VersionTest {
             }
         }
         due.is("versions()", x.versions(), 4);
+        ninth(due);
         due.end();
+    }
+
+    /** With all eight versions made, number 8 still names none, in every call that takes a version. */
+    private static void ninth(Due due) {
+        EscrowedVersions x = Prepared.withVersions(8);
+        due.is("version(7, 0) of eight", x.version(7, 0), 1);
+        due.is("version(8, 0) of eight", x.version(8, 0), EscrowedVersions.BAD);
+        due.is("destroy(8) of eight", x.destroy(8), EscrowedVersions.BAD);
+        due.is("split(8, 1, 1) of eight", x.split(8, 1, 1), EscrowedVersions.BAD);
+        due.is("lock(8) of eight", x.lock(8), EscrowedVersions.BAD);
+        due.is("give(8, 1, 0) of eight", x.give(8, 1, 0), EscrowedVersions.BAD);
+        x.wrap(1);
+        x.set(0, 8);
+        due.is("unwrap() under 8 of eight", x.unwrap(), EscrowedVersions.BAD);
     }
 }
