@@ -16,6 +16,7 @@ public final class EscrowEdgesTest {
         noRoomForSplit(due);
         tooFewCoins(due);
         latestSplitting(due);
+        whateverBecameOfTheVersion(due);
         beforeTheFirst(due);
         noSuchShare(due);
         locked(due);
@@ -183,6 +184,37 @@ public final class EscrowEdgesTest {
         due.is("share(1) of 0", x.share(1), Prepared.secret(0));
         due.is("a refused splitting", x.split(1, 2, 2), EscrowedVersions.COINS);
         due.is("share(1) stays", x.share(1), Prepared.secret(0));
+    }
+
+    /** 0 is named for two cases alone, so no call but another splitting changes what share answers. */
+    private static void whateverBecameOfTheVersion(Due due) {
+        due.sentence("Share i of the latest splitting .., 0 before the first one and when it has no share i.");
+        EscrowedVersions x = Prepared.withVersions(2);
+        Prepared.someCoins(x, 8);
+        x.split(1, 2, 3);
+        int[] shares = {0, x.share(1), x.share(2), x.share(3), 0};
+        x.lock(1);
+        stillAnswers(due, "LOCKED", x, shares);
+        x.give(1, 3, shares[3]);
+        stillAnswers(due, "one share given", x, shares);
+        x.give(1, 1, shares[1]);
+        stillAnswers(due, "opened", x, shares);
+        x.rotate();
+        stillAnswers(due, "RETIRED", x, shares);
+        x.destroy(0);
+        stillAnswers(due, "another DESTROYED", x, shares);
+        x.destroy(1);
+        stillAnswers(due, "DESTROYED", x, shares);
+        x.split(2, 1, 1);
+        due.is("share(1) of another splitting", x.share(1) == shares[1], false);
+        due.is("share(2) of another splitting", x.share(2), 0);
+        due.is("share(3) of another splitting", x.share(3), 0);
+    }
+
+    private static void stillAnswers(Due due, String when, EscrowedVersions x, int[] shares) {
+        for (int i = 0; i < shares.length; i++) {
+            due.is("share(" + i + "), its version being " + when, x.share(i), shares[i]);
+        }
     }
 
     private static void beforeTheFirst(Due due) {

@@ -14,6 +14,8 @@ public final class GiveEdgesTest {
         otherDigest(due);
         noRoomForOne(due);
         noRoomForTwo(due);
+        roomForTheOnlyShare(due);
+        givenAgainButForged(due);
         fullButGivenBefore(due);
         due.end();
     }
@@ -218,6 +220,40 @@ public final class GiveEdgesTest {
         String before = Prepared.state(close.x);
         due.is("the last with 79 entries", close.x.give(Scene.LOCKED, 5, shares[5]), EscrowedVersions.FULL);
         due.unchanged(before, close.x);
+    }
+
+    /** With a threshold of 1 the first share is the last one too: its call always writes both entries. */
+    private static void roomForTheOnlyShare(Due due) {
+        due.sentence("give: FULL (no room in the log for what the call would write there: t = 1)");
+        for (int entries = 78; entries <= 80; entries++) {
+            EscrowedVersions x = locked(1, 2);
+            int share = x.share(2);
+            Prepared.fillLog(x, 1, entries);
+            String before = Prepared.state(x);
+            int want = entries == 78 ? 0 : EscrowedVersions.FULL;
+            due.is("the only one that is needed, with " + entries, x.give(0, 2, share), want);
+            due.is("lock", x.version(0, 1), entries == 78 ? 0 : 1);
+            due.is("entries()", x.entries(), entries == 78 ? 80 : entries);
+            if (want != 0) {
+                due.unchanged(before, x);
+            }
+        }
+    }
+
+    /** That share i was given before takes FULL away, and no other refusal. */
+    private static void givenAgainButForged(Due due) {
+        due.sentence("nothing changes. .. FORGED .. FULL (not when share i was given before)");
+        int[] rows = {20, 79, 80};
+        for (int entries : rows) {
+            Scene scene = new Scene(0, entries);
+            int[] shares = scene.lockedShares;
+            String before = Prepared.state(scene.x);
+            due.is("the right share again", scene.x.give(Scene.LOCKED, 2, shares[2]), 2);
+            due.is("a wrong share", scene.x.give(Scene.LOCKED, 2, shares[2] ^ 1), EscrowedVersions.FORGED);
+            due.is("another's share", scene.x.give(Scene.LOCKED, 2, shares[1]), EscrowedVersions.FORGED);
+            due.is("the right share once more", scene.x.give(Scene.LOCKED, 2, shares[2]), 2);
+            due.unchanged(before, scene.x);
+        }
     }
 
     private static void fullButGivenBefore(Due due) {
